@@ -1,0 +1,237 @@
+import java.lang.reflect.InvocationTargetException;
+import java.lang.reflect.Method;
+import java.lang.reflect.Modifier;
+import java.util.ArrayList;
+import java.util.Arrays;
+import java.util.List;
+import java.util.Map;
+import java.util.Random;
+import java.util.TreeMap;
+
+/** Long runs of calls, drawn from fixed seeds: the program and the oracle must answer each alike. */
+public final class AgainstOracleTest {
+    private static final int RUNS = 300;
+    private static final int CALLS = 512;
+    private static final int[] WILD = {-1, -2, -12, 4, 5, 7, 8, 64, 65, 128, 999, 1 << 20, Integer.MAX_VALUE,
+        Integer.MIN_VALUE, Integer.MIN_VALUE + 1};
+    private static final int[] COLUMN_CODES = {128, 2187, 78125, 16384};
+
+    private static final Map<String, Method> PROGRAM = methods(WrittenColumns.class, true);
+    private static final Map<String, Method> ORACLE = methods(Oracle.class, false);
+
+    private final Random random;
+    private final int run;
+    private final WrittenColumns program = new WrittenColumns();
+    private final Oracle oracle = new Oracle();
+    private final List<String> calls = new ArrayList<>();
+    private int wrong;
+
+    private AgainstOracleTest(int run) {
+        this.run = run;
+        this.random = new Random(run * 7919L + 17);
+    }
+
+    public static void main(String[] args) {
+        int wrong = 0;
+        for (int run = 0; run < RUNS && wrong == 0; run++) {
+            AgainstOracleTest test = new AgainstOracleTest(run);
+            test.play();
+            wrong += test.wrong;
+        }
+        System.out.println(RUNS + " runs against the oracle, wrong answers: " + wrong);
+        if (wrong != 0) {
+            System.exit(1);
+        }
+    }
+
+    private static Map<String, Method> methods(Class<?> type, boolean onlyPublic) {
+        Map<String, Method> found = new TreeMap<>();
+        for (Method method : type.getDeclaredMethods()) {
+            int modifiers = method.getModifiers();
+            boolean face = onlyPublic ? Modifier.isPublic(modifiers)
+                    : !Modifier.isPrivate(modifiers) && !Modifier.isStatic(modifiers);
+            if (face) {
+                found.put(method.getName(), method);
+            }
+        }
+        return found;
+    }
+
+    private void play() {
+        while (calls.size() < CALLS && wrong == 0) {
+            switch (random.nextInt(12)) {
+                case 0:
+                    columnsOfASheet();
+                    break;
+                case 1:
+                    tellBases();
+                    break;
+                case 2:
+                    renumberByASheet();
+                    break;
+                case 3:
+                    writeAndReadAgain();
+                    break;
+                case 4:
+                    call("deal", below(4), below(4), random.nextInt(8), random.nextInt(5));
+                    break;
+                default:
+                    anyCall();
+            }
+        }
+        lookAtAll();
+    }
+
+    private void columnsOfASheet() {
+        int s = random.nextInt(4);
+        int n = random.nextInt(8);
+        int field = random.nextInt(4);
+        call("sheet", s, 1, n + random.nextInt(2));
+        int rows = random.nextInt(4) == 0 ? 7 : random.nextInt(4);
+        int codes = (int) Math.pow(new int[] {2, 3, 5, 4}[field], rows);
+        for (int i = 0; i < n; i++) {
+            call("write", s, i, random.nextInt(60) == 0 ? COLUMN_CODES[field] - random.nextInt(2) : random.nextInt(codes));
+        }
+        call("columns", below(4), field, s, n);
+    }
+
+    private void tellBases() {
+        int s = random.nextInt(4);
+        int v = random.nextInt(4);
+        call("list", v, s);
+        int n = (Integer) invoke(ORACLE, oracle, "many", v, 0);
+        int many = (Integer) invoke(ORACLE, oracle, "many", v, 2);
+        for (int i = random.nextInt(5); i > 2; i--) {
+            int spoiled = random.nextInt(3) == 0 ? random.nextInt(140) - 5 : 1 << random.nextInt(7) | 1 << random.nextInt(7);
+            call("write", s, random.nextInt(Math.max(1, many)), spoiled);
+        }
+        call("tell", below(4), s, random.nextInt(6) == 0 ? below(8) : n);
+        for (int what = 0; what < 4; what++) {
+            call("cause", what);
+        }
+    }
+
+    private void renumberByASheet() {
+        int s = random.nextInt(4);
+        List<Integer> order = new ArrayList<>();
+        int v = random.nextInt(4);
+        int n = (Integer) invoke(ORACLE, oracle, "many", v, 0);
+        for (int e = 0; e < n; e++) {
+            order.add(random.nextInt(order.size() + 1), e);
+        }
+        call("sheet", s, random.nextInt(2), random.nextInt(9) == 0 ? 6 : n + random.nextInt(2));
+        for (int e = 0; e < n; e++) {
+            call("write", s, e, random.nextInt(40) == 0 ? below(8) : order.get(e));
+        }
+        int w = below(4);
+        call("renumber", v, w, s);
+        call("alike", v, w);
+        call("same", v, w);
+    }
+
+    private void writeAndReadAgain() {
+        int v = random.nextInt(4);
+        int field = random.nextInt(4);
+        int s = random.nextInt(4);
+        int w = random.nextInt(4);
+        int n = (Integer) invoke(ORACLE, oracle, "many", v, 0);
+        call("writings", v, field);
+        call("writes", v, field, s);
+        for (int e = 0; e < n; e++) {
+            call("item", s, e);
+        }
+        call("columns", w, field, s, n);
+        call("same", v, w);
+    }
+
+    private void anyCall() {
+        List<String> names = new ArrayList<>(PROGRAM.keySet());
+        String name = names.get(random.nextInt(names.size()));
+        if (name.equals("chance") && random.nextInt(3) != 0) {
+            return;
+        }
+        int[] bounds = boundsOf(name);
+        Object[] values = new Object[bounds.length];
+        for (int i = 0; i < bounds.length; i++) {
+            values[i] = below(bounds[i]);
+        }
+        call(name, values);
+    }
+
+    /** One more than the highest that is right in each place, or 0 where every int is. */
+    private int[] boundsOf(String name) {
+        switch (name) {
+            case "reckon": return new int[] {4, 4, 4, 4};
+            case "uniform": return new int[] {4, 8, 5};
+            case "columns": return new int[] {4, 4, 4, 8};
+            case "tell": return new int[] {4, 4, 8};
+            case "cause": case "count": return new int[] {4};
+            case "rank": case "span": case "sorts": return new int[] {4, random.nextBoolean() ? 16 : 128};
+            case "many": return new int[] {4, 6};
+            case "at": return new int[] {4, 6, random.nextBoolean() ? 4 : 40};
+            case "best": return new int[] {4, 4, 2};
+            case "dual": case "same": case "alike": case "writings": case "take": case "list":
+                return new int[] {4, 4};
+            case "minor": return new int[] {4, 4, random.nextBoolean() ? 2 : 16, random.nextBoolean() ? 2 : 100};
+            case "union": case "renumber": case "writes": return new int[] {4, 4, 4};
+            case "clash": return new int[] {4};
+            case "excluded": return new int[] {4, 2, 3};
+            case "seed": return new int[] {0};
+            case "deal": return new int[] {4, 4, 8, 5};
+            case "chance": return new int[] {4, 8, 5, 6, 4};
+            case "hold": return new int[] {4, 3, 4};
+            case "held": return new int[] {4, 5};
+            case "sheet": return new int[] {4, 2, random.nextBoolean() ? 9 : 65};
+            case "write": return new int[] {4, random.nextBoolean() ? 9 : 64, random.nextBoolean() ? 8 : 0};
+            case "item": return new int[] {4, random.nextBoolean() ? 9 : 64};
+            case "copy": return new int[] {4, 6, 4, 6, 6};
+            case "image": case "back": return new int[] {};
+            default: throw new IllegalStateException(name);
+        }
+    }
+
+    private int below(int bound) {
+        if (bound == 0) {
+            return random.nextInt();
+        }
+        return random.nextInt(25) == 0 ? WILD[random.nextInt(WILD.length)] : random.nextInt(bound);
+    }
+
+    private void lookAtAll() {
+        for (int k = 0; k < 4; k++) {
+            call("cause", k);
+            call("count", k);
+            for (int set = 0; set < 128; set++) {
+                call("rank", k, set);
+            }
+            for (int i = 0; i < 65; i++) {
+                call("item", k, i);
+            }
+            for (int what = 0; what < 5; what++) {
+                call("held", k, what);
+            }
+        }
+    }
+
+    private void call(String name, Object... values) {
+        String text = name + Arrays.toString(values);
+        calls.add(text);
+        Object due = invoke(ORACLE, oracle, name, values);
+        Object got = invoke(PROGRAM, program, name, values);
+        if (!due.equals(got) && wrong == 0) {
+            wrong++;
+            System.out.println("run " + run + ": " + calls);
+            System.out.println("run " + run + ", call " + calls.size() + ": " + text + " answered " + got + ", due is " + due);
+        }
+    }
+
+    private static Object invoke(Map<String, Method> methods, Object on, String name, Object... values) {
+        try {
+            return methods.get(name).invoke(on, values);
+        } catch (InvocationTargetException e) {
+            return String.valueOf(e.getCause());
+        } catch (IllegalAccessException e) {
+            throw new IllegalStateException(e);
+        }
+    }
+}
