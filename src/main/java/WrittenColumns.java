@@ -868,7 +868,8 @@ public final class WrittenColumns {
     private static final class Matrix {
         private static final int NO_PLACE = -1;
 
-        private Field field;
+        /** Some FIELD at first, so that there always is one. */
+        private Field field = new Field(2);
         private final int[] numbers = new int[MOST_ELEMENTS * MOST_ELEMENTS];
         private final int[] echelon = new int[MOST_ELEMENTS * MOST_ELEMENTS];
         private final boolean[] isTaken = new boolean[MOST_ELEMENTS];
@@ -891,9 +892,9 @@ public final class WrittenColumns {
         }
 
         void putCode(int column, int code) {
-            int size = field == null ? 0 : field.size;
+            int size = Math.max(field.size, 1);
             int higher = code;
-            for (int row = 0; row < MOST_ELEMENTS && size > 0; row++) {
+            for (int row = 0; row < MOST_ELEMENTS; row++) {
                 put(column, row, higher % size);
                 higher /= size;
             }
@@ -901,10 +902,8 @@ public final class WrittenColumns {
 
         int codeOf(int column) {
             int code = 0;
-            if (field != null && isBelow(column, MOST_ELEMENTS)) {
-                for (int row = MOST_ELEMENTS - 1; row >= 0; row--) {
-                    code = code * field.size + numbers[column * MOST_ELEMENTS + row];
-                }
+            for (int row = MOST_ELEMENTS - 1; row >= 0 && isBelow(column, MOST_ELEMENTS); row--) {
+                code = code * field.size + numbers[column * MOST_ELEMENTS + row];
             }
             return code;
         }
@@ -913,7 +912,6 @@ public final class WrittenColumns {
             depth = 0;
             for (int place = 0; place < MOST_ELEMENTS; place++) {
                 isTaken[place] = false;
-                placeOf[place] = NO_PLACE;
             }
         }
 
@@ -928,7 +926,7 @@ public final class WrittenColumns {
         }
 
         void enter(int column) {
-            if (field == null || !isBelow(column, MOST_ELEMENTS)) {
+            if (!isBelow(column, MOST_ELEMENTS)) {
                 return;
             }
             System.arraycopy(numbers, column * MOST_ELEMENTS, left, 0, MOST_ELEMENTS);
@@ -976,8 +974,9 @@ public final class WrittenColumns {
         /** ROWS, and behind them COLUMNS, that are joined bear the same number. */
         private final int[] joined = new int[2 * MOST_ELEMENTS];
         private final int[] first = new int[MOST_ELEMENTS];
-        private View view;
-        private Field field;
+        /** Some VIEW and some FIELD at first, so that there always are such. */
+        private View view = new View();
+        private Field field = new Field(2);
         private int base;
         private int places;
         private int found;

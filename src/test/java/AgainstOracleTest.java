@@ -10,7 +10,7 @@ import java.util.TreeMap;
 
 /** Long runs of calls, drawn from fixed seeds: the program and the oracle must answer each alike. */
 public final class AgainstOracleTest {
-    private static final int RUNS = 300;
+    private static final int RUNS = 120;
     private static final int CALLS = 512;
     private static final int[] WILD = {-1, -2, -12, 4, 5, 7, 8, 64, 65, 128, 999, 1 << 20, Integer.MAX_VALUE,
         Integer.MIN_VALUE, Integer.MIN_VALUE + 1};
@@ -59,7 +59,7 @@ public final class AgainstOracleTest {
 
     private void play() {
         while (calls.size() < CALLS && wrong == 0) {
-            switch (random.nextInt(12)) {
+            switch (random.nextInt(14)) {
                 case 0:
                     columnsOfASheet();
                     break;
@@ -74,6 +74,12 @@ public final class AgainstOracleTest {
                     break;
                 case 4:
                     call("deal", below(4), below(4), random.nextInt(8), random.nextInt(5));
+                    break;
+                case 5:
+                    largeView();
+                    break;
+                case 6:
+                    askOfWritings(random.nextInt(4));
                     break;
                 default:
                     anyCall();
@@ -93,6 +99,62 @@ public final class AgainstOracleTest {
             call("write", s, i, random.nextInt(60) == 0 ? COLUMN_CODES[field] - random.nextInt(2) : random.nextInt(codes));
         }
         call("columns", below(4), field, s, n);
+    }
+
+    /** Of 5 to 7 ELEMENTS without idle ones, so that there is something to write, to clash, to exclude. */
+    private void largeView() {
+        int v = random.nextInt(4);
+        int n = 5 + random.nextInt(3);
+        int rows = 2 + random.nextInt(3);
+        int field = 1 + random.nextInt(3);
+        int size = new int[] {2, 3, 5, 4}[field];
+        call("sheet", 0, 1, n);
+        for (int e = 0; e < n; e++) {
+            int code = 0;
+            for (int row = 0; row < rows; row++) {
+                code = code * size + (random.nextInt(4) == 0 ? 0 : 1 + random.nextInt(size - 1));
+            }
+            call("write", 0, e, code);
+        }
+        call("columns", v, field, 0, n);
+        if (random.nextInt(3) == 0) {
+            loosen(v, n);
+        }
+        if (random.nextBoolean()) {
+            call("dual", v, v);
+        }
+        askOfWritings(v);
+    }
+
+    /** A set that is both CIRCUIT and HYPERPLANE becomes a BASE: what comes is often hard to write. */
+    private void loosen(int v, int n) {
+        for (int set = 0; set < 1 << n; set++) {
+            if ((Integer) invoke(ORACLE, oracle, "sorts", v, set) == 28) {
+                int bases = (Integer) invoke(ORACLE, oracle, "many", v, 2);
+                call("list", v, 1);
+                call("sheet", 2, 1, bases + 1);
+                call("copy", 1, 0, 2, 0, bases);
+                call("write", 2, bases, set);
+                call("tell", v, 2, n);
+                return;
+            }
+        }
+    }
+
+    private void askOfWritings(int v) {
+        int s = random.nextInt(4);
+        for (int field = 0; field < 4; field++) {
+            call("writings", v, field);
+        }
+        call("clash", v);
+        for (int what = 0; what < 3; what++) {
+            call("excluded", v, 0, what);
+            call("excluded", v, 1, what);
+        }
+        call("writes", v, random.nextInt(4), s);
+        for (int e = 0; e < 7; e++) {
+            call("item", s, e);
+        }
     }
 
     private void tellBases() {
