@@ -106,7 +106,7 @@ public final class WrittenColumns {
         if (sheets[s].isMissing()) {
             return NOTHING_HELD;
         }
-        if (why.isFoundIn(sheets[s], n)) {
+        if (why.findIn(sheets[s], n)) {
             return STATE;
         }
         views[v].becomeByBases(sheets[s], n);
@@ -218,7 +218,7 @@ public final class WrittenColumns {
         if (sheets[s].length < views[v].elements) {
             return OUTSIDE;
         }
-        if (!numbering.isTakenFrom(sheets[s], views[v].elements)) {
+        if (!numbering.readFrom(sheets[s], views[v].elements)) {
             return STATE;
         }
         draft.becomeRenumbered(views[v], numbering);
@@ -284,7 +284,7 @@ public final class WrittenColumns {
         if (!isBelow(v, VIEWS) || !isBelow(field, 2) || !isBelow(what, 3)) {
             return BAD;
         }
-        if (!excluder.isFoundIn(views[v], field == 0)) {
+        if (!excluder.findIn(views[v], field == 0)) {
             return NONE;
         }
         switch (what) {
@@ -1030,11 +1030,12 @@ public final class WrittenColumns {
             }
             columnOf[places] = column;
             rowOf[places] = row;
-            joins[places] = isJoining(row, MOST_ELEMENTS + column);
+            joins[places] = join(row, MOST_ELEMENTS + column);
             places++;
         }
 
-        private boolean isJoining(int one, int other) {
+        /** False if they were joined already. */
+        private boolean join(int one, int other) {
             if (!isBelow(one, joined.length) || !isBelow(other, joined.length) || joined[one] == joined[other]) {
                 return false;
             }
@@ -1047,6 +1048,7 @@ public final class WrittenColumns {
             return true;
         }
 
+        /** Goes through the numbers upwards, so that the first to be kept is the FIRST WRITING. */
         private static void fill(Writer writer, int place) {
             if (place >= writer.places || place >= MOST_PLACES) {
                 writer.keep();
@@ -1105,7 +1107,8 @@ public final class WrittenColumns {
         private int x;
         private int y;
 
-        boolean isFoundIn(View view, boolean forTwo) {
+        /** False if there is none. */
+        boolean findIn(View view, boolean forTwo) {
             for (int into = 0; into <= view.all(); into++) {
                 for (int gone = 0; gone <= view.all(); gone++) {
                     int left = view.elements - Integer.bitCount(into | gone);
@@ -1147,7 +1150,8 @@ public final class WrittenColumns {
     private static final class Numbering {
         private final int[] newBit = new int[MOST_ELEMENTS];
 
-        boolean isTakenFrom(Sheet sheet, int n) {
+        /** False if the numbers aren't 0 .. n - 1, each once. */
+        boolean readFrom(Sheet sheet, int n) {
             int used = 0;
             for (int e = 0; e < n && e < MOST_ELEMENTS; e++) {
                 int number = sheet.numberAt(e);
@@ -1208,13 +1212,14 @@ public final class WrittenColumns {
         private int element = NOBODY;
         private final boolean[] isTold = new boolean[SETS];
 
-        boolean isFoundIn(Sheet sheet, int n) {
+        /** False, and no CAUSE any more, if what is told are BASES. */
+        boolean findIn(Sheet sheet, int n) {
             say(0, NOBODY, NOBODY, NOBODY);
             if (sheet.length == 0) {
                 say(1, NOBODY, NOBODY, NOBODY);
                 return true;
             }
-            return isFoundInNumbers(sheet, n) || isFoundInTwos(sheet, n);
+            return findInNumbers(sheet, n) || findInTwos(sheet, n);
         }
 
         private void say(int ofSort, int at1, int at2, int who) {
@@ -1224,7 +1229,7 @@ public final class WrittenColumns {
             element = who;
         }
 
-        private boolean isFoundInNumbers(Sheet sheet, int n) {
+        private boolean findInNumbers(Sheet sheet, int n) {
             for (int set = 0; set < SETS; set++) {
                 isTold[set] = false;
             }
@@ -1243,7 +1248,7 @@ public final class WrittenColumns {
             return false;
         }
 
-        private boolean isFoundInTwos(Sheet sheet, int n) {
+        private boolean findInTwos(Sheet sheet, int n) {
             for (int i = 0; i < sheet.length; i++) {
                 for (int j = 0; j < sheet.length; j++) {
                     for (int e = 0; e < n; e++) {

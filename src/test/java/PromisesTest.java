@@ -427,6 +427,9 @@ public final class PromisesTest {
         fill(x, 0, 1, LEAST, 0, 0, 0, 0, 9, 9, 9);
         due("a lowest weight may be all there is", x.uniform(2, 1, 1), 1);
         due("a lowest weight may be all there is", x.best(2, 0, 1), LEAST);
+        fill(x, 0, 1, 0, 5, 4);
+        due("uniform", x.uniform(2, 3, 1), 1);
+        due("the second BASE", x.best(2, 0, 0), 2);
         due("v -1", x.best(-1, 0, 0), BAD);
         due("v 4", x.best(4, 0, 0), BAD);
         due("s -1", x.best(0, -1, 0), BAD);
@@ -530,6 +533,7 @@ public final class PromisesTest {
         due("2 and 0 are beside one another", x.rank(1, 0b0101), 1);
         due("0 and 1 aren't", x.rank(1, 0b0011), 2);
         due("3 is idle still", x.rank(1, 0b1000), 0);
+        due("all", x.rank(1, 0b1111), 2);
         due("v stays", x.rank(0, 0b0011), 1);
         due("w is v", x.renumber(0, 0, 0), 1);
         due("w is v", x.same(0, 1), 1);
