@@ -1,6 +1,8 @@
 import java.util.ArrayList;
 import java.util.Arrays;
+import java.util.HashMap;
 import java.util.List;
+import java.util.Map;
 
 /**
  * The document once more, as naively as can be: whatever can be tried out is tried out, and nothing is
@@ -10,6 +12,14 @@ final class Oracle {
     static final int NONE = -1, BAD = -2, STATE = -3, MUCH = -5;
     private static final int[] SIZE = {2, 3, 5, 4};
     private static final int[][] TIMES_OF_FOUR = {{0, 0, 0, 0}, {0, 1, 2, 3}, {0, 2, 3, 1}, {0, 3, 1, 2}};
+
+    private static final int MOST_COLUMNS = 78125;
+
+    /** The sums made so far, and by each sum the round in which it was last made. */
+    private static final int[] SUMS = new int[MOST_COLUMNS];
+    private static final int[] MADE_IN = new int[MOST_COLUMNS];
+    private static int round;
+    private static final Map<String, List<int[]>> FOUND = new HashMap<>();
 
     /** ranks[set]; as many as there are sets. */
     private int[][] views = {{0}, {0}, {0}, {0}};
@@ -499,14 +509,19 @@ final class Oracle {
     }
 
     private static int rankByColumns(int field, int[] codes, int set) {
-        List<Integer> sums = new ArrayList<>(List.of(0));
+        round++;
+        SUMS[0] = 0;
+        MADE_IN[0] = round;
+        int many = 1;
         int rank = 0;
         for (int e = 0; e < codes.length; e++) {
-            if (has(set, e) && !sums.contains(codes[e])) {
-                int many = sums.size();
+            if (has(set, e) && MADE_IN[codes[e]] != round) {
+                int before = many;
                 for (int factor = 1; factor < SIZE[field]; factor++) {
-                    for (int i = 0; i < many; i++) {
-                        sums.add(addCodes(field, sums.get(i), codes[e], factor));
+                    for (int i = 0; i < before; i++) {
+                        SUMS[many] = addCodes(field, SUMS[i], codes[e], factor);
+                        MADE_IN[SUMS[many]] = round;
+                        many++;
                     }
                 }
                 rank++;
@@ -517,12 +532,10 @@ final class Oracle {
 
     private static int addCodes(int field, int a, int b, int factor) {
         int sum = 0;
-        int unit = 1;
-        for (int row = 0; row < 7; row++) {
+        for (int row = 0, unit = 1; row < 7 && unit <= Math.max(a, b); row++, unit *= SIZE[field]) {
             int one = a / unit % SIZE[field];
             int other = b / unit % SIZE[field];
             sum += unit * add(field, one, times(field, factor, other));
-            unit *= SIZE[field];
         }
         return sum;
     }
@@ -718,8 +731,13 @@ final class Oracle {
 
     // ---- writings
 
-    /** All ways to fill the places that aren't fixed, in order, each looked at whole. */
+    /** What was found once needn't be looked for again. */
     static List<int[]> allWritings(int[] ranks, int field) {
+        return FOUND.computeIfAbsent(field + Arrays.toString(ranks), key -> findWritings(ranks, field));
+    }
+
+    /** All ways to fill the places that aren't fixed, in order, each looked at whole. */
+    private static List<int[]> findWritings(int[] ranks, int field) {
         int n = elements(ranks);
         int first = all(ranks, 2).get(0);
         List<Integer> rows = new ArrayList<>();

@@ -54,20 +54,20 @@ public final class PromisesTest {
         }
     }
 
-    private static WrittenColumns withSheet(int s, int sort, int... numbers) {
-        WrittenColumns x = new WrittenColumns();
+    private static Counted withSheet(int s, int sort, int... numbers) {
+        Counted x = new Counted();
         fill(x, s, sort, numbers);
         return x;
     }
 
-    private static void fill(WrittenColumns x, int s, int sort, int... numbers) {
+    private static void fill(Counted x, int s, int sort, int... numbers) {
         due("sheet", x.sheet(s, sort, numbers.length), 1);
         for (int i = 0; i < numbers.length; i++) {
             due("write", x.write(s, i, numbers[i]), 1);
         }
     }
 
-    private static void items(String call, WrittenColumns x, int s, int... numbers) {
+    private static void items(String call, Counted x, int s, int... numbers) {
         for (int i = 0; i < numbers.length; i++) {
             due(call + " place " + i, x.item(s, i), numbers[i]);
         }
@@ -75,13 +75,13 @@ public final class PromisesTest {
     }
 
     /** VIEW v becomes that of the seven points, by SHEET 3. */
-    private static void sevenPoints(WrittenColumns x, int v) {
+    private static void sevenPoints(Counted x, int v) {
         fill(x, 3, 1, SEVEN_POINTS);
         due("columns", x.columns(v, 0, 3, 7), 3);
     }
 
     /** As sevenPoints, but 3 4 5 is a BASE. */
-    private static void loosened(WrittenColumns x, int v) {
+    private static void loosened(Counted x, int v) {
         sevenPoints(x, v);
         due("list", x.list(v, 3), 28);
         due("sheet", x.sheet(2, 1, 29), 1);
@@ -92,7 +92,7 @@ public final class PromisesTest {
 
     private static void newObject() {
         promise = 1;
-        WrittenColumns x = new WrittenColumns();
+        Counted x = new Counted();
         for (int k = 0; k < 4; k++) {
             due("many 0", x.many(k, 0), 0);
             due("rank of the empty set", x.rank(k, 0), 0);
@@ -113,7 +113,7 @@ public final class PromisesTest {
 
     private static void reckon() {
         promise = 2;
-        WrittenColumns x = new WrittenColumns();
+        Counted x = new Counted();
         int[] rests = {2, 3, 5};
         for (int field = 0; field < 3; field++) {
             int size = rests[field];
@@ -153,16 +153,17 @@ public final class PromisesTest {
 
     private static void uniform() {
         promise = 3;
-        WrittenColumns x = new WrittenColumns();
         for (int n = 0; n <= 7; n++) {
             for (int r = 0; r <= n; r++) {
-                due("uniform", x.uniform(2, n, r), 1);
-                due("ELEMENTS", x.many(2, 0), n);
+                Counted y = new Counted();
+                due("uniform", y.uniform(2, n, r), 1);
+                due("ELEMENTS", y.many(2, 0), n);
                 for (int set = 0; set < 1 << n; set++) {
-                    due("rank", x.rank(2, set), Math.min(r, Integer.bitCount(set)));
+                    due("rank", y.rank(2, set), Math.min(r, Integer.bitCount(set)));
                 }
             }
         }
+        Counted x = new Counted();
         due("uniform", x.uniform(0, 4, 2), 1);
         due("v -1", x.uniform(-1, 4, 2), BAD);
         due("v 4", x.uniform(4, 4, 2), BAD);
@@ -177,7 +178,7 @@ public final class PromisesTest {
 
     private static void columns() {
         promise = 4;
-        WrittenColumns x = withSheet(1, 1, 1, 4, 7, 10);
+        Counted x = withSheet(1, 1, 1, 4, 7, 10);
         due("over THREE: 1 2 and 2 1 aren't one another's", x.columns(0, 1, 1, 4), 3);
         due("1, 1 1, 1 2 over THREE", x.rank(0, 7), 2);
         due("1 1, 1 2 over THREE", x.rank(0, 6), 2);
@@ -224,7 +225,7 @@ public final class PromisesTest {
 
     private static void tell() {
         promise = 5;
-        WrittenColumns x = withSheet(0, 1, 3, 5, 6, 9, 10);
+        Counted x = withSheet(0, 1, 3, 5, 6, 9, 10);
         due("all twos of 0 1 2, and 3 beside 2", x.tell(1, 0, 4), 2);
         due("2 and 3 are beside one another", x.rank(1, 12), 1);
         due("0 1 2", x.rank(1, 7), 2);
@@ -250,7 +251,7 @@ public final class PromisesTest {
         due("a refused one changes nothing", x.many(1, 0), 2);
     }
 
-    private static void causes(String call, WrittenColumns x, int sort, int place, int second, int element) {
+    private static void causes(String call, Counted x, int sort, int place, int second, int element) {
         due(call + " sort", x.cause(0), sort);
         due(call + " place", x.cause(1), place);
         due(call + " second", x.cause(2), second);
@@ -259,7 +260,7 @@ public final class PromisesTest {
 
     private static void cause() {
         promise = 6;
-        WrittenColumns x = new WrittenColumns();
+        Counted x = new Counted();
         causes("new", x, 0, -1, -1, -1);
         fill(x, 0, 1);
         due("none is told", x.tell(0, 0, 3), STATE);
@@ -302,7 +303,7 @@ public final class PromisesTest {
 
     private static void rankSpanSorts() {
         promise = 7;
-        WrittenColumns x = new WrittenColumns();
+        Counted x = new Counted();
         sevenPoints(x, 1);
         due("a line", x.rank(1, 11), 2);
         due("no line", x.rank(1, 7), 3);
@@ -352,7 +353,7 @@ public final class PromisesTest {
 
     private static void manyAndAt() {
         promise = 10;
-        WrittenColumns x = new WrittenColumns();
+        Counted x = new Counted();
         sevenPoints(x, 1);
         int[] sevenPoints = {7, 1 + 7 + 21 + 28, 28, 14, 16, 7};
         int[] noElements = {0, 1, 1, 0, 1, 0};
@@ -396,7 +397,7 @@ public final class PromisesTest {
 
     private static void best() {
         promise = 12;
-        WrittenColumns x = withSheet(0, 1, 5, 7, -3, 7, 1);
+        Counted x = withSheet(0, 1, 5, 7, -3, 7, 1);
         due("uniform", x.uniform(0, 5, 2), 1);
         due("1 and 3", x.best(0, 0, 0), 0b01010);
         due("1 and 3", x.best(0, 0, 1), 14);
@@ -441,7 +442,7 @@ public final class PromisesTest {
 
     private static void dual() {
         promise = 13;
-        WrittenColumns x = new WrittenColumns();
+        Counted x = new Counted();
         due("uniform", x.uniform(0, 5, 2), 1);
         due("dual", x.dual(0, 1), 3);
         due("uniform", x.uniform(2, 5, 3), 1);
@@ -462,7 +463,7 @@ public final class PromisesTest {
 
     private static void minor() {
         promise = 14;
-        WrittenColumns x = new WrittenColumns();
+        Counted x = new Counted();
         sevenPoints(x, 0);
         due("into 0, without 6", x.minor(0, 1, 1, 64), 5);
         due("1 and 3 are now beside one another", x.rank(1, 0b00101), 1);
@@ -494,7 +495,7 @@ public final class PromisesTest {
 
     private static void union() {
         promise = 15;
-        WrittenColumns x = new WrittenColumns();
+        Counted x = new Counted();
         due("uniform", x.uniform(0, 5, 1), 1);
         due("uniform", x.uniform(1, 5, 2), 1);
         due("uniform", x.uniform(2, 5, 3), 1);
@@ -526,7 +527,7 @@ public final class PromisesTest {
 
     private static void renumber() {
         promise = 16;
-        WrittenColumns x = withSheet(0, 1, 2, 0, 1, 3);
+        Counted x = withSheet(0, 1, 2, 0, 1, 3);
         fill(x, 1, 1, 1, 1, 2, 0);
         due("0 and 1 beside one another, 3 idle", x.columns(0, 0, 1, 4), 2);
         due("renumber", x.renumber(0, 1, 0), 1);
@@ -561,7 +562,7 @@ public final class PromisesTest {
 
     private static void sameAndAlike() {
         promise = 17;
-        WrittenColumns x = withSheet(0, 1, 1, 1, 2);
+        Counted x = withSheet(0, 1, 1, 1, 2);
         due("both of no ELEMENTS", x.same(0, 1), 1);
         due("columns", x.columns(0, 0, 0, 3), 2);
         fill(x, 0, 1, 1, 2, 1);
@@ -611,7 +612,7 @@ public final class PromisesTest {
         due("both of seven", x.alike(2, 3), MUCH);
     }
 
-    private static void manyWritings(String call, WrittenColumns x, int v, int... want) {
+    private static void manyWritings(String call, Counted x, int v, int... want) {
         for (int field = 0; field < 4; field++) {
             due(call + " over FIELD " + field, x.writings(v, field), want[field]);
         }
@@ -619,7 +620,7 @@ public final class PromisesTest {
 
     private static void writings() {
         promise = 19;
-        WrittenColumns x = new WrittenColumns();
+        Counted x = new Counted();
         manyWritings("no ELEMENTS", x, 0, 1, 1, 1, 1);
         due("uniform", x.uniform(0, 7, 0), 1);
         manyWritings("idle ones", x, 0, 1, 1, 1, 1);
@@ -653,7 +654,7 @@ public final class PromisesTest {
 
     private static void writes() {
         promise = 20;
-        WrittenColumns x = new WrittenColumns();
+        Counted x = new Counted();
         due("no ELEMENTS", x.writes(0, 0, 0), 0);
         items("no ELEMENTS", x, 0);
         due("uniform", x.uniform(0, 4, 2), 1);
@@ -707,7 +708,7 @@ public final class PromisesTest {
 
     private static void clash() {
         promise = 21;
-        WrittenColumns x = new WrittenColumns();
+        Counted x = new Counted();
         due("no ELEMENTS", x.clash(0), NONE);
         sevenPoints(x, 0);
         due("seven points can be", x.clash(0), NONE);
@@ -723,7 +724,7 @@ public final class PromisesTest {
         due("v 4", x.clash(4), BAD);
     }
 
-    private static void excludedAre(String call, WrittenColumns x, int v, int field, int... want) {
+    private static void excludedAre(String call, Counted x, int v, int field, int... want) {
         for (int what = 0; what < 3; what++) {
             due(call + ", " + what, x.excluded(v, field, what), want[want.length == 1 ? 0 : what]);
         }
@@ -731,7 +732,7 @@ public final class PromisesTest {
 
     private static void excluded() {
         promise = 22;
-        WrittenColumns x = new WrittenColumns();
+        Counted x = new Counted();
         excludedAre("no ELEMENTS", x, 0, 0, NONE);
         excludedAre("no ELEMENTS", x, 0, 1, NONE);
         sevenPoints(x, 0);
@@ -767,7 +768,7 @@ public final class PromisesTest {
 
     private static void seedAndDeal() {
         promise = 23;
-        WrittenColumns x = new WrittenColumns();
+        Counted x = new Counted();
         due("seed", x.seed(-77), 1);
         due("seed", x.seed(LEAST), -77);
         due("seed", x.seed(12), LEAST);
@@ -811,8 +812,8 @@ public final class PromisesTest {
     private static void chance() {
         promise = 25;
         for (int seed = 0; seed < 12; seed++) {
-            WrittenColumns x = new WrittenColumns();
-            WrittenColumns y = new WrittenColumns();
+            Counted x = new Counted();
+            Counted y = new Counted();
             due("seed", x.seed(seed), 1);
             due("seed", y.seed(seed), 1);
             int can = 0;
@@ -825,7 +826,7 @@ public final class PromisesTest {
             due("VIEWS are as they were", x.count(0), 0);
             due("over the FIELD they are of", x.chance(2, 7, 4, 5, 2), 5);
         }
-        WrittenColumns x = new WrittenColumns();
+        Counted x = new Counted();
         due("no COLUMNS", x.chance(0, 0, 0, 5, 3), 5);
         due("m 1", x.chance(3, 7, 4, 1, 3), 1);
         due("field -1", x.chance(-1, 3, 3, 3, 0), BAD);
@@ -842,7 +843,7 @@ public final class PromisesTest {
 
     private static void holdAndHeld() {
         promise = 26;
-        WrittenColumns x = new WrittenColumns();
+        Counted x = new Counted();
         due("a VIEW of none", x.hold(3, 1, 0), 1);
         due("it is held", x.held(3, 2), 0);
         due("uniform", x.uniform(2, 5, 2), 1);
@@ -889,7 +890,7 @@ public final class PromisesTest {
 
     private static void take() {
         promise = 28;
-        WrittenColumns x = new WrittenColumns();
+        Counted x = new Counted();
         sevenPoints(x, 0);
         due("hold", x.hold(2, 1, 0), 1);
         due("take", x.take(3, 2), 7);
@@ -910,7 +911,7 @@ public final class PromisesTest {
 
     private static void sheetWriteItem() {
         promise = 29;
-        WrittenColumns x = new WrittenColumns();
+        Counted x = new Counted();
         due("bytes", x.sheet(0, 0, 64), 1);
         due("ints", x.sheet(1, 1, 64), 1);
         for (int i = 0; i < 64; i++) {
@@ -959,7 +960,7 @@ public final class PromisesTest {
 
     private static void copy() {
         promise = 32;
-        WrittenColumns x = withSheet(0, 1, 1, 2, 3, 4, 5);
+        Counted x = withSheet(0, 1, 1, 2, 3, 4, 5);
         fill(x, 1, 1, 9, 9, 9);
         due("copy", x.copy(0, 1, 1, 0, 2), 2);
         items("copy", x, 1, 2, 3, 9);
@@ -997,7 +998,7 @@ public final class PromisesTest {
 
     private static void list() {
         promise = 33;
-        WrittenColumns x = withSheet(1, 0, 5, 5, 5);
+        Counted x = withSheet(1, 0, 5, 5, 5);
         due("no ELEMENTS", x.list(0, 0), 1);
         items("no ELEMENTS", x, 0, 0);
         due("uniform", x.uniform(0, 4, 3), 1);
@@ -1020,7 +1021,7 @@ public final class PromisesTest {
 
     private static void imageAndBack() {
         promise = 34;
-        WrittenColumns x = new WrittenColumns();
+        Counted x = new Counted();
         due("uniform", x.uniform(0, 4, 2), 1);
         due("uniform", x.uniform(3, 5, 1), 1);
         due("seed", x.seed(99), 1);
@@ -1054,7 +1055,7 @@ public final class PromisesTest {
 
     private static void count() {
         promise = 36;
-        WrittenColumns x = new WrittenColumns();
+        Counted x = new Counted();
         for (int v = 0; v < 4; v++) {
             due("uniform", x.uniform(v, v + 4, 1), 1);
         }
