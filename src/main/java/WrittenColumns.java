@@ -253,7 +253,7 @@ public final class WrittenColumns {
         if (!isBelow(v, VIEWS) || !isBelow(field, FIELDS)) {
             return BAD;
         }
-        return writer.countUpTo(views[v], fields[field], Integer.MAX_VALUE);
+        return writer.countUpTo(views[v], fields[field], Writer.ALL_THERE_ARE);
     }
 
     public int writes(int v, int field, int s) {
@@ -964,6 +964,9 @@ public final class WrittenColumns {
 
     /** Looks for the WRITINGS of a VIEW over a FIELD. */
     private static final class Writer {
+        /** More than any VIEW has. */
+        static final int ALL_THERE_ARE = 1 << 30;
+
         /** ROWS times COLUMNS that aren't of BASE: 3 times 4 at most. */
         private static final int MOST_PLACES = 12;
 

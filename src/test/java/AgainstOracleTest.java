@@ -1,12 +1,6 @@
-import java.lang.reflect.InvocationTargetException;
-import java.lang.reflect.Method;
-import java.lang.reflect.Modifier;
 import java.util.ArrayList;
-import java.util.Arrays;
 import java.util.List;
-import java.util.Map;
 import java.util.Random;
-import java.util.TreeMap;
 
 /** Long runs of calls, drawn from fixed seeds: the program and the oracle must answer each alike. */
 public final class AgainstOracleTest {
@@ -17,18 +11,10 @@ public final class AgainstOracleTest {
         Integer.MIN_VALUE, Integer.MIN_VALUE + 1};
     private static final int[] COLUMN_CODES = {128, 2187, 78125, 16384};
 
-    private static final Map<String, Method> PROGRAM = methods(Counted.class);
-    private static final Map<String, Method> ORACLE = methods(Oracle.class);
-
     private final Random random;
-    private final int run;
-    private Counted program = new Counted();
-    private final Oracle oracle = new Oracle();
-    private final List<Call> calls = new ArrayList<>();
-    private int wrong;
+    private final Pair pair = new Pair();
 
     private AgainstOracleTest(int run) {
-        this.run = run;
         this.random = new Random(run * 7919L + 17);
     }
 
@@ -37,7 +23,10 @@ public final class AgainstOracleTest {
         for (int run = 0; run < RUNS && wrong == 0; run++) {
             AgainstOracleTest test = new AgainstOracleTest(run);
             test.play();
-            wrong += test.wrong;
+            if (test.pair.isWrong()) {
+                wrong++;
+                System.out.println("run " + run + ": " + test.pair.fault());
+            }
         }
         System.out.println(RUNS + " runs against the oracle, wrong answers: " + wrong);
         if (wrong != 0) {
@@ -45,20 +34,8 @@ public final class AgainstOracleTest {
         }
     }
 
-    private static Map<String, Method> methods(Class<?> type) {
-        Map<String, Method> found = new TreeMap<>();
-        for (Method method : type.getDeclaredMethods()) {
-            int modifiers = method.getModifiers();
-            boolean isOfFace = !Modifier.isPrivate(modifiers) && !Modifier.isStatic(modifiers);
-            if (isOfFace && !method.getName().equals("calls")) {
-                found.put(method.getName(), method);
-            }
-        }
-        return found;
-    }
-
     private void play() {
-        while (calls.size() < CALLS && wrong == 0) {
+        while (pair.size() < CALLS && !pair.isWrong()) {
             switch (random.nextInt(14)) {
                 case 0:
                     columnsOfASheet();
@@ -85,7 +62,7 @@ public final class AgainstOracleTest {
                     anyCall();
             }
         }
-        lookAtAll();
+        pair.lookAtAll();
     }
 
     private void columnsOfASheet() {
@@ -129,8 +106,8 @@ public final class AgainstOracleTest {
     /** A set that is both CIRCUIT and HYPERPLANE becomes a BASE: what comes is often hard to write. */
     private void loosen(int v, int n) {
         for (int set = 0; set < 1 << n; set++) {
-            if ((Integer) invoke(ORACLE, oracle, "sorts", v, set) == 28) {
-                int bases = (Integer) invoke(ORACLE, oracle, "many", v, 2);
+            if (ask("sorts", v, set) == 28) {
+                int bases = ask("many", v, 2);
                 call("list", v, 1);
                 call("sheet", 2, 1, bases + 1);
                 call("copy", 1, 0, 2, 0, bases);
@@ -161,8 +138,8 @@ public final class AgainstOracleTest {
         int s = random.nextInt(4);
         int v = random.nextInt(4);
         call("list", v, s);
-        int n = (Integer) invoke(ORACLE, oracle, "many", v, 0);
-        int many = (Integer) invoke(ORACLE, oracle, "many", v, 2);
+        int n = ask("many", v, 0);
+        int many = ask("many", v, 2);
         for (int i = random.nextInt(5); i > 2; i--) {
             int spoiled = random.nextInt(3) == 0 ? random.nextInt(140) - 5 : 1 << random.nextInt(7) | 1 << random.nextInt(7);
             call("write", s, random.nextInt(Math.max(1, many)), spoiled);
@@ -177,7 +154,7 @@ public final class AgainstOracleTest {
         int s = random.nextInt(4);
         List<Integer> order = new ArrayList<>();
         int v = random.nextInt(4);
-        int n = (Integer) invoke(ORACLE, oracle, "many", v, 0);
+        int n = ask("many", v, 0);
         for (int e = 0; e < n; e++) {
             order.add(random.nextInt(order.size() + 1), e);
         }
@@ -196,7 +173,7 @@ public final class AgainstOracleTest {
         int field = random.nextInt(4);
         int s = random.nextInt(4);
         int w = random.nextInt(4);
-        int n = (Integer) invoke(ORACLE, oracle, "many", v, 0);
+        int n = ask("many", v, 0);
         call("writings", v, field);
         call("writes", v, field, s);
         for (int e = 0; e < n; e++) {
@@ -207,7 +184,7 @@ public final class AgainstOracleTest {
     }
 
     private void anyCall() {
-        List<String> names = new ArrayList<>(PROGRAM.keySet());
+        List<String> names = Pair.names();
         String name = names.get(random.nextInt(names.size()));
         if (name.equals("chance") && random.nextInt(3) != 0) {
             return;
@@ -259,78 +236,11 @@ public final class AgainstOracleTest {
         return random.nextInt(25) == 0 ? WILD[random.nextInt(WILD.length)] : random.nextInt(bound);
     }
 
-    private void lookAtAll() {
-        List<Call> played = new ArrayList<>(calls);
-        for (Call look : looks()) {
-            if (program.calls() >= Counted.MOST_CALLS && wrong == 0) {
-                playAgain(played);
-            }
-            call(look.name, look.values);
-        }
-    }
-
-    /** What is looked at changes nothing, so that one may go on looking at another object played alike. */
-    private void playAgain(List<Call> played) {
-        program = new Counted();
-        calls.clear();
-        for (Call call : played) {
-            calls.add(call);
-            invoke(PROGRAM, program, call.name, call.values);
-        }
-    }
-
-    private static List<Call> looks() {
-        List<Call> looks = new ArrayList<>();
-        for (int k = 0; k < 4; k++) {
-            looks.add(new Call("cause", k));
-            looks.add(new Call("count", k));
-            for (int set = 0; set < 128; set++) {
-                looks.add(new Call("rank", k, set));
-            }
-            for (int i = 0; i < 65; i++) {
-                looks.add(new Call("item", k, i));
-            }
-            for (int what = 0; what < 5; what++) {
-                looks.add(new Call("held", k, what));
-            }
-        }
-        return looks;
+    private int ask(String name, Object... values) {
+        return pair.ofOracle(name, values);
     }
 
     private void call(String name, Object... values) {
-        Call call = new Call(name, values);
-        calls.add(call);
-        Object due = invoke(ORACLE, oracle, name, values);
-        Object got = invoke(PROGRAM, program, name, values);
-        if (!due.equals(got) && wrong == 0) {
-            wrong++;
-            System.out.println("run " + run + ": " + calls);
-            System.out.println("run " + run + ", call " + calls.size() + ": " + call + " answered " + got + ", due is " + due);
-        }
-    }
-
-    private static final class Call {
-        private final String name;
-        private final Object[] values;
-
-        Call(String name, Object... values) {
-            this.name = name;
-            this.values = values;
-        }
-
-        @Override
-        public String toString() {
-            return name + Arrays.toString(values);
-        }
-    }
-
-    private static Object invoke(Map<String, Method> methods, Object on, String name, Object... values) {
-        try {
-            return methods.get(name).invoke(on, values);
-        } catch (InvocationTargetException e) {
-            return String.valueOf(e.getCause());
-        } catch (IllegalAccessException e) {
-            throw new IllegalStateException(e);
-        }
+        pair.call(name, values);
     }
 }

@@ -105,6 +105,21 @@ public final class EdgesOfWritingsTest {
             is(x.columns(0, 0, 0, 7), 3);
             writingsAre(x, 0, 1, 0, 0, 1);
         });
+        EDGES.edge("larger ones asked before leave no trace", x -> {
+            EDGES.fill(x, 0, Edges.INTS, 1, 5, 25, 6, 11);
+            is(x.columns(1, 2, 0, 5), 3);
+            EDGES.fill(x, 0, Edges.INTS, 1, 25, 5, 6, 11);
+            is(x.columns(2, 2, 0, 5), 3);
+            for (int n = 7; n >= 4; n--) {
+                for (int rank = 2; rank < n; rank++) {
+                    is(x.uniform(0, n, rank), 1);
+                    x.writings(0, 1);
+                    writingsAre(x, 1, 0, 1, 3, 2);
+                    x.writings(0, 1);
+                    writingsAre(x, 2, 0, 1, 3, 2);
+                }
+            }
+        });
         EDGES.edge("it asks for RANKS of all sets, not of those beside BASE alone", x -> {
             is(x.uniform(0, 5, 3), 1);
             is(x.writings(0, 0), 0);
@@ -553,14 +568,23 @@ public final class EdgesOfWritingsTest {
             }
         });
         EDGES.edge("one behind another, each as deal would", x -> {
-            int can = 0;
-            for (int m = 1; m <= 5; m++) {
-                x.deal(0, 2, 7, 3);
-                can += x.writings(0, 3) > 0 ? 1 : 0;
-                int z = x.seed(1);
-                is(x.chance(2, 7, 3, m, 3), can);
-                is(x.seed(z), 1);
+            int yes = 0;
+            int no = 0;
+            for (int z = 0; z < 12; z++) {
+                x.seed(z);
+                int can = 0;
+                for (int m = 1; m <= 5; m++) {
+                    x.deal(0, 2, 6, 3);
+                    int one = x.writings(0, 1) > 0 ? 1 : 0;
+                    yes += one;
+                    no += 1 - one;
+                    can += one;
+                    int next = x.seed(z);
+                    is(x.chance(2, 6, 3, m, 1), can);
+                    is(x.seed(next), z);
+                }
             }
+            is(yes > 5 && no > 5 ? 1 : 0, 1);
         });
         EDGES.edge("a VIEW that can be written in several ways counts once", x -> {
             int several = 0;

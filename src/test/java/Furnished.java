@@ -1,6 +1,17 @@
-/** An object that has something of all kinds, and a look at all that there is in one. */
+/** Objects that have something of all kinds, and a look at all that there is in one. */
 final class Furnished {
+    /** Whoever is to be furnished, told call by call. */
+    interface Told {
+        Object call(String name, Object... values);
+    }
+
     private Furnished() {
+    }
+
+    static Counted object() {
+        Counted x = new Counted();
+        furnish((name, values) -> Pair.ofProgram(x, name, values));
+        return x;
     }
 
     /**
@@ -8,34 +19,59 @@ final class Furnished {
      * SHEETS: 0 five ints, 1 three bytes, 2 of no ints, 3 missing. HOLDS: 0 FIVE, 1 VIEW 1, 2 nothing, 3 TWO.
      * CAUSE is of sort 4, z is 777, THE IMAGE has VIEWS of 2, 0, 7, 1 and z 55.
      */
-    static Counted object() {
-        Counted x = new Counted();
-        x.uniform(0, 2, 1);
-        x.uniform(2, 7, 7);
-        x.uniform(3, 1, 0);
-        x.seed(55);
-        x.image();
+    static void furnish(Told x) {
+        uniforms(x, 2, 1, 0, 0, 7, 7, 1, 0);
+        x.call("seed", 55);
+        x.call("image");
         fill(x, 0, 1, 3, 5, 4, 5, 0);
-        x.columns(1, 0, 0, 5);
+        x.call("columns", 1, 0, 0, 5);
         fill(x, 0, 1, 3, 12);
-        x.tell(0, 0, 4);
+        x.call("tell", 0, 0, 4);
         fill(x, 0, 1, 3, 1, 0, 2, 4);
         fill(x, 1, 0, -1, 7, 100);
-        x.sheet(2, 1, 0);
-        x.uniform(0, 4, 2);
-        x.uniform(2, 3, 1);
-        x.uniform(3, 0, 0);
-        x.hold(0, 0, 2);
-        x.hold(1, 1, 1);
-        x.hold(3, 0, 0);
-        x.seed(777);
-        return x;
+        x.call("sheet", 2, 1, 0);
+        x.call("uniform", 0, 4, 2);
+        x.call("uniform", 2, 3, 1);
+        x.call("uniform", 3, 0, 0);
+        x.call("hold", 0, 0, 2);
+        x.call("hold", 1, 1, 1);
+        x.call("hold", 3, 0, 0);
+        x.call("seed", 777);
     }
 
-    private static void fill(Counted x, int s, int sort, int... numbers) {
-        x.sheet(s, sort, numbers.length);
+    /**
+     * VIEWS: 0 of seven points over TWO, 1 of seven FREE ones, 2 idle ones, 3 FREE ones. SHEETS: 0 of 64 ints,
+     * 1 of seven, 2 of seven bytes, 3 of 28 ints. All HOLDS hold something; z is the least int.
+     */
+    static void fillUp(Told x) {
+        uniforms(x, 7, 3, 7, 4, 7, 0, 7, 7);
+        x.call("image");
+        fill(x, 1, 1, 1, 2, 4, 3, 5, 6, 7);
+        x.call("columns", 0, 0, 1, 7);
+        fill(x, 2, 0, 127);
+        x.call("tell", 1, 2, 7);
+        fill(x, 2, 0, 6, 0, 5, 1, 4, 2, 3);
+        x.call("sheet", 0, 1, 64);
+        x.call("write", 0, 63, Edges.LEAST);
+        x.call("list", 0, 3);
+        x.call("write", 3, 27, 56);
+        x.call("hold", 0, 1, 0);
+        x.call("hold", 1, 1, 1);
+        x.call("hold", 2, 0, 3);
+        x.call("hold", 3, 1, 3);
+        x.call("seed", Edges.LEAST);
+    }
+
+    private static void uniforms(Told x, int... many) {
+        for (int v = 0; v < 4; v++) {
+            x.call("uniform", v, many[2 * v], many[2 * v + 1]);
+        }
+    }
+
+    private static void fill(Told x, int s, int sort, int... numbers) {
+        x.call("sheet", s, sort, numbers.length);
         for (int i = 0; i < numbers.length; i++) {
-            x.write(s, i, numbers[i]);
+            x.call("write", s, i, numbers[i]);
         }
     }
 
