@@ -932,13 +932,16 @@ public final class WrittenColumns {
             System.arraycopy(numbers, column * MOST_ELEMENTS, left, 0, MOST_ELEMENTS);
             placeOf[column] = NO_PLACE;
             for (int place = 0; place < MOST_ELEMENTS; place++) {
-                if (left[place] != 0 && !isTaken[place]) {
+                if (left[place] == 0) {
+                    continue;
+                }
+                if (!isTaken[place]) {
                     keepLeft(column, place);
                     return;
                 }
                 int pivot = echelon[place * MOST_ELEMENTS + place];
-                int factor = left[place] == 0 ? 0 : field.product(left[place], field.inverse(pivot));
-                for (int row = place; row < MOST_ELEMENTS && factor != 0; row++) {
+                int factor = field.product(left[place], field.inverse(pivot));
+                for (int row = place; row < MOST_ELEMENTS; row++) {
                     int part = field.product(factor, echelon[place * MOST_ELEMENTS + row]);
                     left[row] = field.difference(left[row], part);
                 }
@@ -1114,9 +1117,12 @@ public final class WrittenColumns {
         boolean findIn(View view, boolean forTwo) {
             for (int into = 0; into <= view.all(); into++) {
                 for (int gone = 0; gone <= view.all(); gone++) {
+                    if ((into & gone) != 0) {
+                        continue;
+                    }
                     int left = view.elements - Integer.bitCount(into | gone);
                     boolean canBe = forTwo ? left == 4 : left == 5 || left == 7;
-                    if (canBe && (into & gone) == 0) {
+                    if (canBe) {
                         x = into;
                         y = gone;
                         minor.becomeMinor(view, x, y);
